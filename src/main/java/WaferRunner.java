@@ -6,6 +6,7 @@ public final class WaferRunner {
     private static final int FEED_BYTES = 20;
     private static final int ARGUMENTS_MOST = 8;
     private static final int PAGE = 65536;
+    private static final int PAGES_MOST = 2;
 
     private static final int NOT_READ = 1;
     private static final int NOT_VALID = 2;
@@ -58,9 +59,11 @@ public final class WaferRunner {
     }
 
     public int module() throws UnsupportedOperationException {
-        reason = tryTape();
+        boolean isRead = reader.reads(tape, tapeLength, spare);
+        boolean isValid = isRead && validator.accepts(spare);
         tapeLength = 0;
-        if (reason != 0) {
+        reason = isValid ? 0 : isRead ? NOT_VALID : NOT_READ;
+        if (!isValid) {
             throw new UnsupportedOperationException("not a module that can be read and is valid");
         }
         Wafer old = current;
@@ -141,13 +144,6 @@ public final class WaferRunner {
         }
     }
 
-    private int tryTape() {
-        if (!reader.reads(tape, tapeLength, spare)) {
-            return NOT_READ;
-        }
-        return validator.accepts(spare) ? 0 : NOT_VALID;
-    }
-
     private void requireModule() {
         if (!loaded) {
             throw new IllegalStateException("there is no module");
@@ -226,6 +222,7 @@ public final class WaferRunner {
         static final int ROTL = 0x77;
         static final int ROTR = 0x78;
         static final int I64_CLZ = 0x79;
+        static final int I64_POPCNT = 0x7B;
         static final int I64_ROTR = 0x8A;
 
         static final int I32_WRAP_I64 = 0xA7;
@@ -235,9 +232,9 @@ public final class WaferRunner {
         /** The end of a whole code, kept apart from the end of a block: no byte says it. */
         static final int LEAVE = 0x100;
 
-        /** How far the i64 row stands behind the i32 row. */
-        static final int TO_I64_COMPARISON = I64_EQZ - EQZ;
-        static final int TO_I64_ARITHMETIC = I64_CLZ - CLZ;
+        /** How far a row of i64 stands behind that of i32. */
+        static final int COMPARISON_GAP = I64_EQZ - EQZ;
+        static final int ARITHMETIC_GAP = I64_CLZ - CLZ;
 
         /** First and last of each run of instructions that may be read. */
         private static final int[] KNOWN = {
@@ -254,28 +251,6 @@ public final class WaferRunner {
                 }
             }
             return false;
-        }
-
-        static boolean isI64Comparison(int op) {
-            return op >= I64_EQZ && op <= I64_GE_U;
-        }
-
-        static boolean isI64Arithmetic(int op) {
-            return op >= I64_CLZ && op <= I64_ROTR;
-        }
-
-        /** The instruction of i32 that stands at the same place in its row. */
-        static int asI32(int op) {
-            if (isI64Comparison(op)) {
-                return op - TO_I64_COMPARISON;
-            }
-            return isI64Arithmetic(op) ? op - TO_I64_ARITHMETIC : op;
-        }
-
-        /** Of comparisons and arithmetic. */
-        static boolean takesOne(int op) {
-            int plain = asI32(op);
-            return plain == EQZ || plain >= CLZ && plain <= POPCNT;
         }
 
         /** How many bytes of the memory a load or store touches. */
@@ -486,10 +461,9 @@ public final class WaferRunner {
 
     /** Bytes that are taken one after the other; once one is not as it must be, all that follow are 0. */
     private static final class Source {
-        private static final int SHORT_BYTES = 5;
-        private static final int LONG_BYTES = 10;
-        private static final long UNSIGNED_MOST = 0xFFFFFFFFL;
-        private static final int INDEX_MOST = 0x7FFFFFFF;
+        static final long NUMBER_MOST = 0xFFFFFFFFL;
+        static final long INDEX_MOST = 0x7FFFFFFFL;
+        private static final int NUMBER_BYTES = 5;
 
         private byte[] bytes;
         private int at;
@@ -516,7 +490,7 @@ public final class WaferRunner {
         }
 
         int octet() {
-            if (!hasMore()) {
+            if (failed || at >= limit) {
                 failed = true;
                 return 0;
             }
@@ -531,6 +505,14 @@ public final class WaferRunner {
             }
         }
 
+        boolean flag() {
+            int b = octet();
+            if (b > 1) {
+                failed = true;
+            }
+            return b == 1;
+        }
+
         int valueType() {
             int type = octet();
             if (type != I32 && type != I64) {
@@ -539,76 +521,45 @@ public final class WaferRunner {
             return type;
         }
 
-        long unsigned() {
+        long unsigned(long most) {
             long value = 0;
-            for (int k = 0; k < SHORT_BYTES; k++) {
+            for (int k = 0; k < NUMBER_BYTES; k++) {
                 int b = octet();
                 value |= (long) (b & 127) << 7 * k;
                 if (b < 128) {
-                    return upTo(value, UNSIGNED_MOST);
+                    if (value > most) {
+                        failed = true;
+                    }
+                    return failed ? 0 : value;
                 }
             }
             failed = true;
             return 0;
         }
 
-        int atMost(int most) {
-            return (int) upTo(unsigned(), most);
-        }
-
-        int index() {
-            return atMost(INDEX_MOST);
-        }
-
-        private long upTo(long value, long most) {
-            if (value > most) {
-                failed = true;
-            }
-            return failed ? 0 : value;
-        }
-
-        int signedInt() {
-            long value = signed(SHORT_BYTES);
-            // Five bytes have 35 bits: those above the 32 must all be the sign.
-            if (value != (int) value) {
-                failed = true;
-            }
-            return (int) value;
-        }
-
-        long signedLong() {
-            return signed(LONG_BYTES);
-        }
-
-        private long signed(int bytesMost) {
+        long signed(int bits) {
             long value = 0;
-            for (int k = 0; k < bytesMost; k++) {
+            for (int shift = 0; shift < bits; shift += 7) {
                 int b = octet();
-                value |= (long) (b & 127) << 7 * k;
                 if (b < 128) {
-                    return k == LONG_BYTES - 1 ? withLastByte(value, b) : signExtended(value, 7 * k + 7);
+                    int part = b << 25 >> 25;
+                    // The last byte that there may be has bits to spare, and they must all be the sign.
+                    int signs = part >> Math.min(7, bits - shift) - 1;
+                    if (signs != 0 && signs != -1) {
+                        failed = true;
+                    }
+                    return value | (long) part << shift;
                 }
+                value |= (long) (b & 127) << shift;
             }
             failed = true;
             return 0;
-        }
-
-        /** The tenth byte has room for the sign alone. */
-        private long withLastByte(long value, int b) {
-            if (b != 0 && b != 127) {
-                failed = true;
-            }
-            return value;
-        }
-
-        private static long signExtended(long value, int bits) {
-            return value << 64 - bits >> 64 - bits;
         }
 
         /** Ends the source behind the next part, whose size stands before it; answers where it ended. */
         int narrow() {
             int outer = limit;
-            long size = unsigned();
+            long size = unsigned(NUMBER_MOST);
             if (size > limit - at) {
                 failed = true;
             } else {
@@ -625,12 +576,12 @@ public final class WaferRunner {
             limit = outer;
         }
 
-        void skipRest() {
-            at = limit;
-        }
-
         int left() {
             return limit - at;
+        }
+
+        void skipRest() {
+            at = limit;
         }
     }
 
@@ -638,6 +589,7 @@ public final class WaferRunner {
     private static final class Reader {
         private static final int[] HEAD = {0x00, 0x61, 0x73, 0x6D, 0x01, 0x00, 0x00, 0x00};
         private static final int FUNCTION_TYPE = 0x60;
+        private static final int CUSTOM = 0;
 
         private final Source source;
         private final BodyReader bodyReader;
@@ -649,37 +601,30 @@ public final class WaferRunner {
             bodyReader = new BodyReader();
         }
 
-        boolean reads(byte[] row, int length, Wafer empty) {
+        boolean reads(byte[] row, int length, Wafer into) {
             source.open(row, length);
-            wafer = empty;
+            wafer = into;
             wafer.clear();
             codeCount = 0;
             for (int k = 0; k < HEAD.length; k++) {
                 source.require(HEAD[k]);
             }
-            readSections();
-            return !source.hasFailed() && codeCount == wafer.functionCount;
-        }
-
-        private void readSections() {
             int last = 0;
             for (int k = 0; k < TAPE_MOST && source.hasMore(); k++) {
                 int id = source.octet();
-                if (id != 0) {
-                    if (id <= last) {
-                        source.fail();
-                    }
-                    last = id;
+                if (id != CUSTOM && id <= last) {
+                    source.fail();
                 }
-                int outer = source.narrow();
+                last = Math.max(id, last);
                 readSection(id);
-                source.widen(outer);
             }
+            return !source.hasFailed() && codeCount == wafer.functionCount;
         }
 
         private void readSection(int id) {
+            int outer = source.narrow();
             switch (id) {
-                case 0:
+                case CUSTOM:
                     readCustom();
                     break;
                 case 1:
@@ -698,16 +643,18 @@ public final class WaferRunner {
                     readExports();
                     break;
                 case 10:
-                    readCodes();
+                    codeCount = (int) source.unsigned(Wafer.FUNCTIONS_MOST);
+                    bodyReader.readAll(source, wafer, codeCount);
                     break;
                 default:
                     source.fail();
                     break;
             }
+            source.widen(outer);
         }
 
         private void readCustom() {
-            long nameLength = source.unsigned();
+            long nameLength = source.unsigned(Source.NUMBER_MOST);
             if (nameLength > source.left()) {
                 source.fail();
             }
@@ -715,45 +662,38 @@ public final class WaferRunner {
         }
 
         private void readTypes() {
-            wafer.typeCount = source.atMost(Wafer.TYPES_MOST);
+            wafer.typeCount = (int) source.unsigned(Wafer.TYPES_MOST);
             for (int t = 0; t < wafer.typeCount; t++) {
                 source.require(FUNCTION_TYPE);
-                wafer.parameterCounts[t] = source.atMost(Wafer.PARAMETERS_MOST);
+                wafer.parameterCounts[t] = (int) source.unsigned(Wafer.PARAMETERS_MOST);
                 for (int p = 0; p < wafer.parameterCounts[t]; p++) {
                     wafer.parameters[t * Wafer.PARAMETERS_MOST + p] = source.valueType();
                 }
-                wafer.results[t] = source.atMost(1) == 1 ? source.valueType() : NO_TYPE;
+                wafer.results[t] = source.unsigned(1) == 1 ? source.valueType() : NO_TYPE;
             }
         }
 
         private void readFunctions() {
-            wafer.functionCount = source.atMost(Wafer.FUNCTIONS_MOST);
+            wafer.functionCount = (int) source.unsigned(Wafer.FUNCTIONS_MOST);
             for (int f = 0; f < wafer.functionCount; f++) {
-                wafer.functionTypes[f] = source.index();
+                wafer.functionTypes[f] = (int) source.unsigned(Source.INDEX_MOST);
             }
         }
 
         private void readMemories() {
-            wafer.hasMemory = source.atMost(1) == 1;
+            wafer.hasMemory = source.unsigned(1) == 1;
             if (wafer.hasMemory) {
-                int flag = source.octet();
-                if (flag > 1) {
-                    source.fail();
-                }
-                wafer.pagesAtFirst = source.unsigned();
-                wafer.pagesMost = flag == 1 ? source.unsigned() : Wafer.PAGES_BOUND;
+                boolean hasMost = source.flag();
+                wafer.pagesAtFirst = source.unsigned(Source.NUMBER_MOST);
+                wafer.pagesMost = hasMost ? source.unsigned(Source.NUMBER_MOST) : Wafer.PAGES_BOUND;
             }
         }
 
         private void readGlobals() {
-            wafer.globalCount = source.atMost(Wafer.GLOBALS_MOST);
+            wafer.globalCount = (int) source.unsigned(Wafer.GLOBALS_MOST);
             for (int g = 0; g < wafer.globalCount; g++) {
                 wafer.globalTypes[g] = source.valueType();
-                int change = source.octet();
-                if (change > 1) {
-                    source.fail();
-                }
-                wafer.globalsChange[g] = change == 1;
+                wafer.globalsChange[g] = source.flag();
                 readInitialValue(g);
             }
         }
@@ -762,10 +702,10 @@ public final class WaferRunner {
             int op = source.octet();
             if (op == Op.I32_CONST) {
                 wafer.initialTypes[g] = I32;
-                wafer.initialValues[g] = source.signedInt();
+                wafer.initialValues[g] = source.signed(32);
             } else if (op == Op.I64_CONST) {
                 wafer.initialTypes[g] = I64;
-                wafer.initialValues[g] = source.signedLong();
+                wafer.initialValues[g] = source.signed(64);
             } else {
                 source.fail();
             }
@@ -774,9 +714,9 @@ public final class WaferRunner {
 
         private void readExports() {
             Exports exports = wafer.exports;
-            exports.size = source.atMost(Exports.MOST);
+            exports.size = (int) source.unsigned(Exports.MOST);
             for (int x = 0; x < exports.size; x++) {
-                exports.nameLengths[x] = source.atMost(Exports.NAME_MOST);
+                exports.nameLengths[x] = (int) source.unsigned(Exports.NAME_MOST);
                 for (int k = 0; k < exports.nameLengths[x]; k++) {
                     exports.names[x * Exports.NAME_MOST + k] = (byte) source.octet();
                 }
@@ -785,21 +725,12 @@ public final class WaferRunner {
                     source.fail();
                 }
                 exports.kinds[x] = kind;
-                exports.indices[x] = source.index();
-            }
-        }
-
-        private void readCodes() {
-            codeCount = source.atMost(Wafer.FUNCTIONS_MOST);
-            for (int f = 0; f < codeCount && !source.hasFailed(); f++) {
-                int outer = source.narrow();
-                bodyReader.read(source, wafer, f);
-                source.widen(outer);
+                exports.indices[x] = (int) source.unsigned(Source.INDEX_MOST);
             }
         }
     }
 
-    /** Reads the locals and instructions of one function. */
+    /** Reads the locals and instructions of the functions. */
     private static final class BodyReader {
         private static final int RUNS_MOST = 60;
         private static final int OPEN_MOST = 100;
@@ -814,23 +745,27 @@ public final class WaferRunner {
             open = new int[OPEN_MOST];
         }
 
-        void read(Source from, Wafer wafer, int f) {
+        void readAll(Source from, Wafer wafer, int codeCount) {
             source = from;
             code = wafer.code;
-            readLocals(wafer, f);
-            wafer.starts[f] = code.size;
-            openCount = 0;
-            boolean goesOn = true;
-            for (int k = 0; k < TAPE_MOST && goesOn && !source.hasFailed(); k++) {
-                goesOn = readInstruction();
+            for (int f = 0; f < codeCount && !source.hasFailed(); f++) {
+                int outer = source.narrow();
+                readLocals(wafer, f);
+                wafer.starts[f] = code.size;
+                openCount = 0;
+                boolean goesOn = true;
+                for (int k = 0; k < TAPE_MOST && goesOn; k++) {
+                    goesOn = readInstruction();
+                }
+                source.widen(outer);
             }
         }
 
         private void readLocals(Wafer wafer, int f) {
-            int runs = source.atMost(RUNS_MOST);
+            int runs = (int) source.unsigned(RUNS_MOST);
             int size = 0;
             for (int r = 0; r < runs; r++) {
-                int length = source.atMost(Wafer.LOCALS_MOST - size);
+                int length = (int) source.unsigned(Wafer.LOCALS_MOST - size);
                 int type = source.valueType();
                 for (int k = 0; k < length; k++) {
                     wafer.locals[f * Wafer.LOCALS_MOST + size] = type;
@@ -848,15 +783,23 @@ public final class WaferRunner {
                 return false;
             }
             int at = code.add(op);
-            if (op == Op.END) {
-                return closeBlock(at);
-            }
-            if (op == Op.ELSE) {
-                turnToElse(at);
-            } else if (op >= Op.BLOCK && op <= Op.IF) {
-                openBlock(at);
-            } else {
-                readImmediate(op, at);
+            switch (op) {
+                case Op.BLOCK:
+                case Op.LOOP:
+                case Op.IF:
+                    openBlock(at);
+                    break;
+                case Op.ELSE:
+                    turnToElse(at);
+                    break;
+                case Op.END:
+                    return closeBlock(at);
+                case Op.BR_TABLE:
+                    readTable(at);
+                    break;
+                default:
+                    readImmediate(op, at);
+                    break;
             }
             return true;
         }
@@ -895,40 +838,37 @@ public final class WaferRunner {
             return true;
         }
 
-        private void readImmediate(int op, int at) {
-            if (op == Op.BR_TABLE) {
-                readTable(at);
-            } else if (op == Op.BR || op == Op.BR_IF || op == Op.CALL || op >= Op.LOCAL_GET && op <= Op.GLOBAL_SET) {
-                code.values[at] = source.index();
-            } else if (op >= Op.I32_LOAD && op <= Op.I32_STORE8) {
-                code.extras[at] = source.index();
-                code.values[at] = source.unsigned();
-            } else if (op == Op.MEMORY_SIZE || op == Op.MEMORY_GROW) {
-                source.require(0);
-            } else if (op == Op.I32_CONST) {
-                code.values[at] = source.signedInt();
-            } else if (op == Op.I64_CONST) {
-                code.values[at] = source.signedLong();
+        private void readTable(int at) {
+            int besides = (int) source.unsigned(LABELS_MOST);
+            code.values[at] = besides;
+            code.extras[at] = code.labelCount;
+            // A label takes a byte of the tape at least, so there is a place for each that is there.
+            for (int k = 0; k <= besides && source.hasMore(); k++) {
+                code.addLabel((int) source.unsigned(Source.INDEX_MOST));
+            }
+            if (code.labelCount - code.extras[at] != besides + 1) {
+                source.fail();
             }
         }
 
-        private void readTable(int at) {
-            int besides = source.atMost(LABELS_MOST);
-            code.values[at] = besides;
-            code.extras[at] = code.labelCount;
-            for (int k = 0; k <= besides && source.hasMore(); k++) {
-                code.addLabel(source.index());
-            }
-            if (code.labelCount != code.extras[at] + besides + 1) {
-                source.fail();
+        private void readImmediate(int op, int at) {
+            if (op == Op.BR || op == Op.BR_IF || op == Op.CALL || op >= Op.LOCAL_GET && op <= Op.GLOBAL_SET) {
+                code.values[at] = source.unsigned(Source.INDEX_MOST);
+            } else if (op >= Op.I32_LOAD && op <= Op.I32_STORE8) {
+                code.extras[at] = (int) source.unsigned(Source.INDEX_MOST);
+                code.values[at] = source.unsigned(Source.NUMBER_MOST);
+            } else if (op == Op.MEMORY_SIZE || op == Op.MEMORY_GROW) {
+                source.require(0);
+            } else if (op == Op.I32_CONST) {
+                code.values[at] = source.signed(32);
+            } else if (op == Op.I64_CONST) {
+                code.values[at] = source.signed(64);
             }
         }
     }
 
     /** Says whether a wafer that was read is valid. */
     private static final class Validator {
-        static final int PAGES_AT_FIRST_MOST = 2;
-
         private final BodyValidator bodyValidator;
 
         Validator() {
@@ -936,8 +876,12 @@ public final class WaferRunner {
         }
 
         boolean accepts(Wafer wafer) {
-            return acceptsFunctions(wafer) && acceptsMemory(wafer) && acceptsGlobals(wafer)
-                && acceptsExports(wafer) && acceptsBodies(wafer);
+            boolean good = acceptsFunctions(wafer) && acceptsMemory(wafer) && acceptsGlobals(wafer)
+                && acceptsExports(wafer);
+            for (int f = 0; f < wafer.functionCount && good; f++) {
+                good = bodyValidator.accepts(wafer, f);
+            }
+            return good;
         }
 
         private static boolean acceptsFunctions(Wafer wafer) {
@@ -950,7 +894,7 @@ public final class WaferRunner {
         }
 
         private static boolean acceptsMemory(Wafer wafer) {
-            return wafer.pagesAtFirst <= PAGES_AT_FIRST_MOST && wafer.pagesMost <= Wafer.PAGES_BOUND
+            return wafer.pagesAtFirst <= PAGES_MOST && wafer.pagesMost <= Wafer.PAGES_BOUND
                 && wafer.pagesAtFirst <= wafer.pagesMost;
         }
 
@@ -982,15 +926,6 @@ public final class WaferRunner {
             }
             return wafer.hasMemory ? 1 : 0;
         }
-
-        private boolean acceptsBodies(Wafer wafer) {
-            for (int f = 0; f < wafer.functionCount; f++) {
-                if (!bodyValidator.accepts(wafer, f)) {
-                    return false;
-                }
-            }
-            return true;
-        }
     }
 
     /** Goes once through a function with the types that lie on the stack, and finds where branches go. */
@@ -1007,14 +942,20 @@ public final class WaferRunner {
         /** The open blocks; the function itself, which has no opener, lies lowest. */
         private final int[] openers;
         private final int[] bases;
+        private final int[] blockTypes;
+        /** What a branch to the block carries. */
+        private final int[] labelTypes;
         private final boolean[] unreachable;
         private int openCount;
         private boolean failed;
 
         BodyValidator() {
+            // No instruction leaves more than one value more than there were.
             types = new int[TAPE_MOST];
             openers = new int[OPEN_MOST];
             bases = new int[OPEN_MOST];
+            blockTypes = new int[OPEN_MOST];
+            labelTypes = new int[OPEN_MOST];
             unreachable = new boolean[OPEN_MOST];
         }
 
@@ -1025,7 +966,8 @@ public final class WaferRunner {
             height = 0;
             openCount = 0;
             failed = false;
-            openBlock(Code.NOWHERE);
+            int result = wafer.resultOf(f);
+            openBlock(Code.NOWHERE, result, result);
             for (int at = wafer.starts[f]; at < code.size && openCount > 0 && !failed; at++) {
                 check(code.ops[at], at);
             }
@@ -1036,9 +978,10 @@ public final class WaferRunner {
             if (op == Op.LEAVE || op <= Op.CALL) {
                 checkControl(op, at);
             } else if (op == Op.DROP) {
-                popAny();
+                pop(ANY_TYPE);
             } else if (op == Op.SELECT) {
-                checkSelect();
+                pop(I32);
+                push(pop(pop(ANY_TYPE)));
             } else if (op <= Op.LOCAL_TEE) {
                 checkLocal(op, wafer.variableTypeOf(function, code.values[at]));
             } else if (op <= Op.GLOBAL_SET) {
@@ -1054,44 +997,53 @@ public final class WaferRunner {
 
         private void checkControl(int op, int at) {
             switch (op) {
+                case Op.NOP:
+                    break;
                 case Op.UNREACHABLE:
                     becomeUnreachable();
                     break;
+                case Op.BLOCK:
+                    openBlock(at, code.extras[at], code.extras[at]);
+                    break;
+                case Op.LOOP:
+                    openBlock(at, code.extras[at], NO_TYPE);
+                    break;
                 case Op.IF:
                     pop(I32);
-                    openBlock(at);
-                    break;
-                case Op.BLOCK:
-                case Op.LOOP:
-                    openBlock(at);
+                    openBlock(at, code.extras[at], code.extras[at]);
                     break;
                 case Op.ELSE:
                     checkElse();
                     break;
-                case Op.END:
-                case Op.LEAVE:
-                    closeBlock();
+                case Op.BR:
+                case Op.BR_IF:
+                    checkBranch(op, at);
+                    break;
+                case Op.BR_TABLE:
+                    checkTable(at);
                     break;
                 case Op.RETURN:
-                    popIfTyped(wafer.resultOf(function));
+                    pop(wafer.resultOf(function));
                     becomeUnreachable();
                     break;
                 case Op.CALL:
                     checkCall(code.values[at]);
                     break;
                 default:
-                    checkBranch(op, at);
+                    closeBlock();
                     break;
             }
         }
 
-        private void openBlock(int opener) {
+        private void openBlock(int opener, int blockType, int labelType) {
             if (openCount >= OPEN_MOST) {
                 failed = true;
                 return;
             }
             openers[openCount] = opener;
             bases[openCount] = height;
+            blockTypes[openCount] = blockType;
+            labelTypes[openCount] = labelType;
             unreachable[openCount] = false;
             openCount++;
             if (opener >= 0) {
@@ -1101,63 +1053,42 @@ public final class WaferRunner {
 
         private void checkElse() {
             int top = openCount - 1;
-            popIfTyped(blockType(top));
-            requireBase();
+            pop(blockTypes[top]);
+            if (height != bases[top]) {
+                failed = true;
+            }
             unreachable[top] = false;
         }
 
         private void closeBlock() {
             int top = openCount - 1;
             int opener = openers[top];
-            int type = blockType(top);
-            popIfTyped(type);
-            requireBase();
+            pop(blockTypes[top]);
+            if (height != bases[top]) {
+                failed = true;
+            }
             // An if without else gives nothing when it is passed over.
-            if (type != NO_TYPE && opener >= 0 && code.ops[opener] == Op.IF && code.elses[opener] < 0) {
+            if (opener >= 0 && code.ops[opener] == Op.IF && code.elses[opener] < 0 && blockTypes[top] != NO_TYPE) {
                 failed = true;
             }
             openCount--;
-            pushIfTyped(type);
-        }
-
-        private void requireBase() {
-            if (height != bases[openCount - 1]) {
-                failed = true;
-            }
-        }
-
-        private int blockType(int level) {
-            int opener = openers[level];
-            return opener < 0 ? wafer.resultOf(function) : code.extras[opener];
-        }
-
-        /** What a branch to the block carries: nothing to a loop, which it begins anew. */
-        private int labelType(int level) {
-            int opener = openers[level];
-            return opener >= 0 && code.ops[opener] == Op.LOOP ? NO_TYPE : blockType(level);
+            push(blockTypes[top]);
         }
 
         private void checkBranch(int op, int at) {
-            if (op == Op.BR_TABLE) {
-                checkTable(at);
-            } else if (op == Op.BR || op == Op.BR_IF) {
-                int level = levelOf(code.values[at]);
-                if (level < 0) {
-                    failed = true;
-                    return;
-                }
-                code.targets[at] = openers[level];
-                checkJump(op, labelType(level));
-            }
-        }
-
-        private void checkJump(int op, int type) {
             if (op == Op.BR_IF) {
                 pop(I32);
-                popIfTyped(type);
-                pushIfTyped(type);
+            }
+            int level = levelOf(code.values[at]);
+            if (level < 0) {
+                failed = true;
+                return;
+            }
+            code.targets[at] = openers[level];
+            pop(labelTypes[level]);
+            if (op == Op.BR_IF) {
+                push(labelTypes[level]);
             } else {
-                popIfTyped(type);
                 becomeUnreachable();
             }
         }
@@ -1173,14 +1104,14 @@ public final class WaferRunner {
             int lastLevel = levelOf(code.labels[last]);
             for (int k = first; k <= last; k++) {
                 int level = levelOf(code.labels[k]);
-                if (level < 0 || lastLevel < 0 || labelType(level) != labelType(lastLevel)) {
+                if (level < 0 || lastLevel < 0 || labelTypes[level] != labelTypes[lastLevel]) {
                     failed = true;
                     return;
                 }
                 code.labelTargets[k] = openers[level];
             }
             pop(I32);
-            popIfTyped(labelType(lastLevel));
+            pop(labelTypes[lastLevel]);
             becomeUnreachable();
         }
 
@@ -1193,13 +1124,7 @@ public final class WaferRunner {
             for (int p = wafer.parameterCountOf(f) - 1; p >= 0; p--) {
                 pop(wafer.parameterTypeOf(f, p));
             }
-            pushIfTyped(wafer.resultOf(f));
-        }
-
-        private void checkSelect() {
-            pop(I32);
-            int upper = popAny();
-            push(pop(upper));
+            push(wafer.resultOf(f));
         }
 
         private void checkLocal(int op, int type) {
@@ -1247,7 +1172,7 @@ public final class WaferRunner {
 
         private void checkAccess(int op, int alignment) {
             int width = Op.width(op);
-            // The alignment is a power of two; beyond 3 it is greater than any width.
+            // The alignment is an exponent of 2; the widest access has 8 bytes.
             if (alignment > 3 || 1 << alignment > width) {
                 failed = true;
             }
@@ -1262,15 +1187,27 @@ public final class WaferRunner {
         }
 
         private void checkNumeric(int op) {
-            boolean compares = op <= Op.I64_GE_U;
-            boolean takesI64 = op == Op.I32_WRAP_I64 || Op.isI64Comparison(op) || Op.isI64Arithmetic(op);
-            boolean givesI64 = op >= Op.I64_EXTEND_I32_S || Op.isI64Arithmetic(op);
-            int taken = takesI64 ? I64 : I32;
+            if (op <= Op.GE_U) {
+                checkOperands(op == Op.EQZ, I32, I32);
+            } else if (op <= Op.I64_GE_U) {
+                checkOperands(op == Op.I64_EQZ, I64, I32);
+            } else if (op <= Op.ROTR) {
+                checkOperands(op <= Op.POPCNT, I32, I32);
+            } else if (op <= Op.I64_ROTR) {
+                checkOperands(op <= Op.I64_POPCNT, I64, I64);
+            } else if (op == Op.I32_WRAP_I64) {
+                checkOperands(true, I64, I32);
+            } else {
+                checkOperands(true, I32, I64);
+            }
+        }
+
+        private void checkOperands(boolean takesOne, int taken, int given) {
             pop(taken);
-            if (op <= Op.I64_ROTR && !Op.takesOne(op)) {
+            if (!takesOne) {
                 pop(taken);
             }
-            push(givesI64 && !compares ? I64 : I32);
+            push(given);
         }
 
         private void becomeUnreachable() {
@@ -1278,13 +1215,10 @@ public final class WaferRunner {
             unreachable[openCount - 1] = true;
         }
 
-        private void pushIfTyped(int type) {
-            if (type != NO_TYPE) {
-                push(type);
-            }
-        }
-
         private void push(int type) {
+            if (type == NO_TYPE) {
+                return;
+            }
             if (height >= types.length) {
                 failed = true;
                 return;
@@ -1293,15 +1227,17 @@ public final class WaferRunner {
             height++;
         }
 
-        private void popIfTyped(int type) {
-            if (type != NO_TYPE) {
-                pop(type);
-            }
-        }
-
-        /** Takes a value of that type, and answers the type, as far as either is known. */
+        /** Takes a value of that type, and answers its type as far as it is known. */
         private int pop(int wanted) {
-            int found = popAny();
+            if (wanted == NO_TYPE) {
+                return NO_TYPE;
+            }
+            if (height <= bases[openCount - 1]) {
+                failed = failed || !unreachable[openCount - 1];
+                return wanted;
+            }
+            height--;
+            int found = types[height];
             if (found == ANY_TYPE) {
                 return wanted;
             }
@@ -1310,35 +1246,24 @@ public final class WaferRunner {
             }
             return found;
         }
-
-        private int popAny() {
-            if (height > bases[openCount - 1]) {
-                height--;
-                return types[height];
-            }
-            if (!unreachable[openCount - 1]) {
-                failed = true;
-            }
-            return ANY_TYPE;
-        }
     }
 
-    /** Runs the functions of a wafer that is valid. */
+    /** Runs the functions of a wafer; that it is valid keeps every index below within its row. */
     private static final class Machine {
         private static final int UNREACHABLE = 3;
         private static final int OUTSIDE_MEMORY = 6;
         private static final int STACK_FULL = 7;
         private static final int TOO_MANY_STEPS = 8;
 
-        private static final int PAGES_MOST = 2;
         private static final int STACK_MOST = 12096;
         private static final int CALLS_MOST = 100;
         private static final int STEPS_MOST = 100000;
-        /** Else and end are no steps, but none is passed more than once for a block or call that was one. */
+        /** More than enough: an else or end, which is no step, is passed at most once for a step that opened it. */
         private static final int TURNS_MOST = 1000000;
         private static final long LOW_32 = 0xFFFFFFFFL;
 
         final byte[] bytes;
+        private boolean written;
         int pages;
         final long[] globals;
         int steps;
@@ -1367,8 +1292,9 @@ public final class WaferRunner {
         }
 
         void begin(Wafer whole) {
-            if (pages > 0) {
+            if (written) {
                 Arrays.fill(bytes, (byte) 0);
+                written = false;
             }
             wafer = whole;
             code = whole.code;
@@ -1389,7 +1315,16 @@ public final class WaferRunner {
             }
             enter(f);
             for (int turn = 0; turn < TURNS_MOST && depth > 0 && reason == 0; turn++) {
-                takeTurn();
+                int at = next;
+                int op = code.ops[at];
+                next++;
+                if (op == Op.LEAVE) {
+                    leave();
+                } else if (op == Op.ELSE) {
+                    next = code.ends[at] + 1;
+                } else if (op != Op.END) {
+                    takeStep(op, at);
+                }
             }
             return reason;
         }
@@ -1398,29 +1333,11 @@ public final class WaferRunner {
             return wafer.resultOf(f) == NO_TYPE ? 0 : stack[0];
         }
 
-        private void takeTurn() {
-            int at = next;
-            int op = code.ops[at];
-            next++;
-            if (op == Op.END) {
-                return;
-            }
-            if (op == Op.ELSE) {
-                next = code.ends[at] + 1;
-            } else if (op == Op.LEAVE) {
-                leave();
-            } else {
-                steps++;
-                if (steps > STEPS_MOST) {
-                    reason = TOO_MANY_STEPS;
-                } else {
-                    perform(op, at);
-                }
-            }
-        }
-
-        private void perform(int op, int at) {
-            if (op <= Op.CALL) {
+        private void takeStep(int op, int at) {
+            steps++;
+            if (steps > STEPS_MOST) {
+                reason = TOO_MANY_STEPS;
+            } else if (op <= Op.CALL) {
                 performControl(op, at);
             } else if (op <= Op.GLOBAL_SET) {
                 performVariable(op, (int) code.values[at]);
@@ -1430,10 +1347,13 @@ public final class WaferRunner {
                 push(code.values[at]);
             } else if (op <= Op.I64_GE_U) {
                 performComparison(op);
+            } else if (op <= Op.ROTR) {
+                performInts(op);
             } else if (op <= Op.I64_ROTR) {
-                performArithmetic(op);
+                performLongs(op - Op.ARITHMETIC_GAP);
             } else {
-                performConversion(op);
+                long value = pop();
+                push(op == Op.I64_EXTEND_I32_U ? value & LOW_32 : (int) value);
             }
         }
 
@@ -1456,8 +1376,8 @@ public final class WaferRunner {
                     }
                     break;
                 case Op.BR_TABLE:
-                    long choice = pop() & LOW_32;
-                    branch(code.labelTargets[code.extras[at] + (int) Math.min(choice, code.values[at])]);
+                    int choice = (int) Math.min(pop() & LOW_32, code.values[at]);
+                    branch(code.labelTargets[code.extras[at] + choice]);
                     break;
                 case Op.RETURN:
                     leave();
@@ -1604,40 +1524,42 @@ public final class WaferRunner {
             if (!isInside(address, width)) {
                 return;
             }
+            written = true;
             for (int k = 0; k < width; k++) {
                 bytes[(int) address + k] = (byte) (value >> 8 * k);
             }
         }
 
         private void performComparison(int op) {
-            long right = Op.takesOne(op) ? 0 : pop();
+            int plain = op >= Op.I64_EQZ ? op - Op.COMPARISON_GAP : op;
+            long right = plain == Op.EQZ ? 0 : pop();
             long left = pop();
-            push(Arithmetic.compares(Op.asI32(op), left, right) ? 1 : 0);
+            push(Arithmetic.compares(plain, left, right) ? 1 : 0);
         }
 
-        private void performArithmetic(int op) {
-            boolean isLong = Op.isI64Arithmetic(op);
-            int plain = Op.asI32(op);
-            if (Op.takesOne(op)) {
-                long only = pop();
-                push(isLong ? Arithmetic.countLong(plain, only) : Arithmetic.countInt(plain, (int) only));
+        private void performInts(int op) {
+            if (op <= Op.POPCNT) {
+                push(Arithmetic.countInt(op, (int) pop()));
+                return;
+            }
+            int right = (int) pop();
+            int left = (int) pop();
+            reason = Arithmetic.reasonAgainst(op, left, right, Integer.MIN_VALUE);
+            if (reason == 0) {
+                push(Arithmetic.joinInts(op, left, right));
+            }
+        }
+
+        private void performLongs(int op) {
+            if (op <= Op.POPCNT) {
+                push(Arithmetic.countLong(op, pop()));
                 return;
             }
             long right = pop();
             long left = pop();
-            reason = Arithmetic.reasonAgainst(plain, left, right, isLong ? Long.MIN_VALUE : Integer.MIN_VALUE);
+            reason = Arithmetic.reasonAgainst(op, left, right, Long.MIN_VALUE);
             if (reason == 0) {
-                push(isLong ? Arithmetic.joinLongs(plain, left, right)
-                    : Arithmetic.joinInts(plain, (int) left, (int) right));
-            }
-        }
-
-        private void performConversion(int op) {
-            long value = pop();
-            if (op == Op.I64_EXTEND_I32_U) {
-                push(value & LOW_32);
-            } else {
-                push((int) value);
+                push(Arithmetic.joinLongs(op, left, right));
             }
         }
 
