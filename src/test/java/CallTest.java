@@ -94,6 +94,11 @@ public final class CallTest {
         Use.answers("factorial", factorial, 2432902008176640000L, 20);
         Due.same("steps", factorial.count(5), 4 + 20 * 9);
 
+        // A branch keeps what lies below, also in the function behind one with a result.
+        WaferRunner second = Use.with(new Build().type(Build.NONE_TO_I32).function(0, "00 41 07 0B")
+            .function(0, "00 41 64 02 7F 41 01 41 02 0C 00 0B 6A 0B"));
+        Due.same("the second function", Use.call(second, 1), -28 + 2);
+
         WaferRunner locals = Use.with(new Build().type(Build.I32_TO_I32)
             .function(0, "01 01 7F 20 01 20 00 45 0D 00 1A 41 09 21 01 20 00 41 01 6B 10 00 20 01 6A 0B"));
         Use.answers("locals are 0 in each call", locals, 27, 3);

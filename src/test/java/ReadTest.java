@@ -57,6 +57,10 @@ public final class ReadTest {
         sectionsAre("a section that is longer than what is in it", "01 02 00 00", 1);
         sectionsAre("a section that is shorter than what is in it", "01 03 01 60 00 00", 1);
         sectionsAre("an empty section", "01 00", 1);
+        sectionsAre("a section with another in it", "01 04 00 00 01 00", 1);
+        for (int id : new int[] {2, 4, 8, 9, 11, 12}) {
+            sectionsAre("an empty section " + id, String.format("%02X 00", id), 1);
+        }
         sectionsAre("a size in five bytes", "01 81 80 80 80 00 00", 0);
     }
 
@@ -106,6 +110,7 @@ public final class ReadTest {
         sectionsAre("9 parameters", Build.section(1, "01 60 09" + Build.times(9, "7F") + "00"), 1);
         sectionsAre("1 result", Build.section(1, "01 60 00 01 7E"), 0);
         sectionsAre("2 results", Build.section(1, "01 60 00 02 7F 7F"), 1);
+        sectionsAre("2 results that are not there", Build.section(1, "02 60 00 02 60 00 00"), 1);
         sectionsAre("no function type", Build.section(1, "01 5F 00 00"), 1);
         for (int type : new int[] {0x7D, 0x7C, 0x7B, 0x70, 0x40, 0x00, 0x80, 0xFF}) {
             sectionsAre("parameter of type " + type, Build.section(1, String.format("01 60 01 %02X 00", type)), 1);
@@ -135,6 +140,7 @@ public final class ReadTest {
         sectionsAre("one memory", "05 03 01 00 01", 0);
         sectionsAre("one memory with its most", "05 04 01 01 01 02", 0);
         sectionsAre("two memories", "05 05 02 00 01 00 01", 1);
+        sectionsAre("two memories that are not there", "05 01 02", 1);
         sectionsAre("flag 2", "05 04 01 02 01 02", 1);
         sectionsAre("flag 3", "05 04 01 03 01 02", 1);
         sectionsAre("flag in two bytes", "05 04 01 80 00 01", 1);
@@ -155,6 +161,10 @@ public final class ReadTest {
         sectionsAre("a global of f32", Build.section(6, "01 7D 01 43 00 00 00 00 0B"), 1);
         sectionsAre("a global from another", Build.section(6, "02" + i32 + "7F 00 23 00 0B"), 1);
         sectionsAre("a global without a constant", Build.section(6, "01 7F 00 0B"), 1);
+        sectionsAre("a global of nop", Build.section(6, "01 7F 00 01 0B"), 1);
+        sectionsAre("a global of i64, least", Build.section(6, "01 7E 00 42" + Build.times(9, "80") + "7F 0B"), 0);
+        sectionsAre("a global of i64, one less", Build.section(6, "01 7E 00 42" + Build.times(9, "FF") + "7E 0B"), 1);
+        sectionsAre("a global of i64, one more", Build.section(6, "01 7E 00 42" + Build.times(9, "80") + "01 0B"), 1);
         sectionsAre("a global without end", Build.section(6, "01 7F 00 41 05 01"), 1);
         sectionsAre("a global with more before end", Build.section(6, "01 7F 00 41 05 01 0B"), 1);
         sectionsAre("a global's constant too long", Build.section(6, "01 7F 00 41 80 80 80 80 08 0B"), 1);
@@ -214,6 +224,9 @@ public final class ReadTest {
             }
         }
         codeIs("a code without end", "00 01", 1);
+        codeIs("a code that ends with an unknown instruction", "00 FF", 1);
+        sectionsAre("a code with another in it",
+            TYPES + Build.section(3, "02 00 00") + Build.section(10, "02 05 00 0B 02 00 0B"), 1);
         codeIs("a code without anything", "", 1);
         codeIs("a code that is cut in an instruction", "00 41", 1);
         codeIs("a code with more behind its end", "00 0B 01", 1);
@@ -225,6 +238,8 @@ public final class ReadTest {
     private static void blocks() {
         codeIs("100 blocks open", "00" + Build.times(100, "02 40") + Build.times(101, "0B"), 0);
         codeIs("101 blocks open", "00" + Build.times(101, "02 40") + Build.times(102, "0B"), 1);
+        codeIs("101 blocks open, and one end too few", "00" + Build.times(101, "02 40") + Build.times(101, "0B"), 1);
+        codeIs("a block of no type that stays open", "00 02 7D 0B", 1);
         codeIs("101 blocks, not all open", "00" + Build.times(100, "02 40") + "0B 03 40" + Build.times(101, "0B"), 0);
         codeIs("a block that stays open", "00 02 40 0B", 1);
         codeIs("a block without its type", "00 02", 1);
@@ -233,6 +248,7 @@ public final class ReadTest {
         codeIs("a block of f32", "00 02 7D 00 0B 1A 0B", 1);
         codeIs("a block with a type's index", "00 02 00 0B 0B", 1);
         codeIs("if and else", "00 41 00 04 40 05 0B 0B", 0);
+        codeIs("if and else without a condition", "00 04 40 05 0B 0B", 2);
         codeIs("else twice", "00 41 00 04 40 05 05 0B 0B", 1);
         codeIs("else in a block", "00 02 40 05 0B 0B", 1);
         codeIs("else in a loop", "00 03 40 05 0B 0B", 1);

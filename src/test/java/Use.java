@@ -3,6 +3,18 @@ import java.util.Arrays;
 
 /** Ways to use a runner that several tests share. */
 final class Use {
+    /** Has more of everything than most modules. */
+    private static final byte[] FULL = new Build().type(Build.NONE_TO_I32).type(Build.NONE_TO_NONE).type(Build.I64_TO_I64)
+        .function(1, "01 3C 7E 02 40 00 0B 0B").function(0, "01 09 7F 41 00 02 7F 41 01 0B 6A 0B")
+        .function(2, "00 00 0E 02 00 00 00 0B").memory("01 01 02")
+        .global("7F 01 41 05 0B").global("7E 01 42 05 0B").global("7F 01 41 05 0B")
+        .export("f", 0, 0).export("g", 3, 1).export("m", 2, 0).bytes();
+    /** Is not read, and ends within a block. */
+    private static final byte[] OPEN = new Build().type(Build.NONE_TO_NONE).function(0, "00 02 40 41 00 04 40").bytes();
+    /** Is not valid, and is given up within a block that can't be reached, with values on the stack. */
+    private static final byte[] WRONG = new Build().type(Build.I64_TO_I64).function(0, "00 41 01 02 40 00 42 01 45 0B 0B")
+        .bytes();
+
     private Use() {
     }
 
@@ -78,7 +90,14 @@ final class Use {
         answers(what, with(Build.one(type, code)), want, arguments);
     }
 
+    /** A new object and one that has had other modules, good and bad, must say the same. */
     static void read(String what, byte[] module, int reason) {
         Due.same("module: " + what, load(new WaferRunner(), module), reason);
+        WaferRunner used = new WaferRunner();
+        Due.same("the full module", load(used, FULL), 0);
+        Due.same("the open module", load(used, OPEN), 1);
+        Due.same("the full module again", load(used, FULL), 0);
+        Due.same("the wrong module", load(used, WRONG), 2);
+        Due.same("module behind others: " + what, load(used, module), reason);
     }
 }

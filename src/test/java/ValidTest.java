@@ -25,6 +25,7 @@ public final class ValidTest {
     private static void outsideOfCodes() {
         Use.read("a type that is not there", new Build().type(NOTHING).function(1, "00 0B").bytes(), 2);
         Use.read("a function without types", new Build().function(0, "00 0B").bytes(), 2);
+        Use.read("a function without types that can't go on", new Build().function(0, "00 00 0B").bytes(), 2);
         memoryIs("00 00", 0);
         memoryIs("00 02", 0);
         memoryIs("00 03", 2);
@@ -79,6 +80,9 @@ public final class ValidTest {
         codeIs(NOTHING, "00 42 00 24 01 0B", 2);
         codeIs(NOTHING, "00 41 00 24 02 0B", 2);
         codeIs(NOTHING, "00 00 24 01 0B", 2);
+        codeIs(NOTHING, "00 00 24 00 0B", 0);
+        codeIs(NOTHING, "00 00 24 02 0B", 2);
+        codeIs(NOTHING, "00 00 23 02 1A 0B", 2);
         codeIs(NOTHING, "00 0C 00 0B", 0);
         codeIs(NOTHING, "00 0C 01 0B", 2);
         codeIs(NOTHING, "00 02 40 0C 01 0B 0B", 0);
@@ -149,6 +153,7 @@ public final class ValidTest {
         codeIs(NOTHING, "00 02 7F 42 00 0B 1A 0B", 2);
         codeIs(NOTHING, "00 02 40 41 00 0B 1A 0B", 2);
         codeIs(NOTHING, "00 02 7F 41 00 41 00 0B 1A 0B", 2);
+        codeIs(NOTHING, "00 02 40 00 0B 02 40 1A 0B 0B", 2);
         // What lies below a block is not the block's.
         codeIs(NOTHING, "00 41 00 02 40 1A 0B 0B", 2);
         codeIs(NOTHING, "00 41 00 02 7F 0B 1A 1A 0B", 2);
