@@ -1645,18 +1645,10 @@ public final class WaferRunner {
 
         static int joinInts(int op, int a, int b) {
             switch (op) {
-                case Op.ADD:
-                    return a + b;
-                case Op.SUB:
-                    return a - b;
-                case Op.MUL:
-                    return a * b;
-                case Op.AND:
-                    return a & b;
-                case Op.OR:
-                    return a | b;
-                case Op.XOR:
-                    return a ^ b;
+                case Op.DIV_U:
+                    return b == 0 ? 0 : Integer.divideUnsigned(a, b);
+                case Op.REM_U:
+                    return b == 0 ? 0 : Integer.remainderUnsigned(a, b);
                 case Op.SHL:
                     return a << b;
                 case Op.SHR_S:
@@ -1668,20 +1660,8 @@ public final class WaferRunner {
                 case Op.ROTR:
                     return Integer.rotateRight(a, b);
                 default:
-                    return b == 0 ? 0 : divideInts(op, a, b);
-            }
-        }
-
-        private static int divideInts(int op, int a, int b) {
-            switch (op) {
-                case Op.DIV_S:
-                    return a / b;
-                case Op.DIV_U:
-                    return Integer.divideUnsigned(a, b);
-                case Op.REM_S:
-                    return a % b;
-                default:
-                    return Integer.remainderUnsigned(a, b);
+                    // For all others the lower half of what i64 answers is what i32 answers.
+                    return (int) joinLongs(op, a, b);
             }
         }
 
@@ -1693,6 +1673,14 @@ public final class WaferRunner {
                     return a - b;
                 case Op.MUL:
                     return a * b;
+                case Op.DIV_S:
+                    return b == 0 ? 0 : a / b;
+                case Op.DIV_U:
+                    return b == 0 ? 0 : Long.divideUnsigned(a, b);
+                case Op.REM_S:
+                    return b == 0 ? 0 : a % b;
+                case Op.REM_U:
+                    return b == 0 ? 0 : Long.remainderUnsigned(a, b);
                 case Op.AND:
                     return a & b;
                 case Op.OR:
@@ -1707,23 +1695,8 @@ public final class WaferRunner {
                     return a >>> b;
                 case Op.ROTL:
                     return Long.rotateLeft(a, (int) b);
-                case Op.ROTR:
+                default:
                     return Long.rotateRight(a, (int) b);
-                default:
-                    return b == 0 ? 0 : divideLongs(op, a, b);
-            }
-        }
-
-        private static long divideLongs(int op, long a, long b) {
-            switch (op) {
-                case Op.DIV_S:
-                    return a / b;
-                case Op.DIV_U:
-                    return Long.divideUnsigned(a, b);
-                case Op.REM_S:
-                    return a % b;
-                default:
-                    return Long.remainderUnsigned(a, b);
             }
         }
     }
