@@ -14,6 +14,7 @@ public final class WaferRunner {
     private static final int I32 = 0x7F;
     private static final int I64 = 0x7E;
     private static final int NO_TYPE = 0x40;
+    private static final long LOW_32 = 0xFFFFFFFFL;
 
     private final byte[] tape;
     private int tapeLength;
@@ -1260,7 +1261,6 @@ public final class WaferRunner {
         private static final int STEPS_MOST = 100000;
         /** More than enough: an else or end, which is no step, is passed at most once for a step that opened it. */
         private static final int TURNS_MOST = 1000000;
-        private static final long LOW_32 = 0xFFFFFFFFL;
 
         final byte[] bytes;
         private boolean written;
@@ -1544,7 +1544,7 @@ public final class WaferRunner {
             }
             int right = (int) pop();
             int left = (int) pop();
-            reason = Arithmetic.reasonAgainst(op, left, right, Integer.MIN_VALUE);
+            reason = Arithmetic.reasonAgainst(op, left, right, Arithmetic.LEAST_INT);
             if (reason == 0) {
                 push(Arithmetic.joinInts(op, left, right));
             }
@@ -1557,7 +1557,7 @@ public final class WaferRunner {
             }
             long right = pop();
             long left = pop();
-            reason = Arithmetic.reasonAgainst(op, left, right, Long.MIN_VALUE);
+            reason = Arithmetic.reasonAgainst(op, left, right, Arithmetic.LEAST_LONG);
             if (reason == 0) {
                 push(Arithmetic.joinLongs(op, left, right));
             }
@@ -1583,6 +1583,14 @@ public final class WaferRunner {
         private static final int BY_ZERO = 4;
         private static final int QUOTIENT_TOO_GREAT = 5;
 
+        static final long LEAST_INT = -1L << 31;
+        static final long LEAST_LONG = -1L << 63;
+
+        /** The order without signs: with the highest bits turned over it is the order with signs. */
+        private static boolean isBelow(long a, long b) {
+            return (a ^ LEAST_LONG) < (b ^ LEAST_LONG);
+        }
+
         /** An i32 with its sign in all 64 bits keeps its place in both orders, so this serves i64 and i32. */
         static boolean compares(int op, long a, long b) {
             switch (op) {
@@ -1594,19 +1602,19 @@ public final class WaferRunner {
                 case Op.LT_S:
                     return a < b;
                 case Op.LT_U:
-                    return Long.compareUnsigned(a, b) < 0;
+                    return isBelow(a, b);
                 case Op.GT_S:
                     return a > b;
                 case Op.GT_U:
-                    return Long.compareUnsigned(a, b) > 0;
+                    return isBelow(b, a);
                 case Op.LE_S:
                     return a <= b;
                 case Op.LE_U:
-                    return Long.compareUnsigned(a, b) <= 0;
+                    return !isBelow(b, a);
                 case Op.GE_S:
                     return a >= b;
                 default:
-                    return Long.compareUnsigned(a, b) >= 0;
+                    return !isBelow(a, b);
             }
         }
 
@@ -1624,9 +1632,9 @@ public final class WaferRunner {
         static int countInt(int op, int a) {
             switch (op) {
                 case Op.CLZ:
-                    return Integer.numberOfLeadingZeros(a);
+                    return Integer.bitCount(~(int) filled(a));
                 case Op.CTZ:
-                    return Integer.numberOfTrailingZeros(a);
+                    return Integer.bitCount(~a & a - 1);
                 default:
                     return Integer.bitCount(a);
             }
@@ -1635,20 +1643,28 @@ public final class WaferRunner {
         static int countLong(int op, long a) {
             switch (op) {
                 case Op.CLZ:
-                    return Long.numberOfLeadingZeros(a);
+                    return Long.bitCount(~filled(a));
                 case Op.CTZ:
-                    return Long.numberOfTrailingZeros(a);
+                    return Long.bitCount(~a & a - 1);
                 default:
                     return Long.bitCount(a);
             }
         }
 
+        /** With every bit below the highest one set, too. */
+        private static long filled(long a) {
+            long bits = a;
+            for (int shift = 1; shift < 64; shift *= 2) {
+                bits |= bits >>> shift;
+            }
+            return bits;
+        }
+
         static int joinInts(int op, int a, int b) {
             switch (op) {
                 case Op.DIV_U:
-                    return b == 0 ? 0 : Integer.divideUnsigned(a, b);
                 case Op.REM_U:
-                    return b == 0 ? 0 : Integer.remainderUnsigned(a, b);
+                    return (int) joinLongs(op, a & LOW_32, b & LOW_32);
                 case Op.SHL:
                     return a << b;
                 case Op.SHR_S:
@@ -1656,13 +1672,27 @@ public final class WaferRunner {
                 case Op.SHR_U:
                     return a >>> b;
                 case Op.ROTL:
-                    return Integer.rotateLeft(a, b);
+                    return a << b | a >>> -b;
                 case Op.ROTR:
-                    return Integer.rotateRight(a, b);
+                    return a >>> b | a << -b;
                 default:
                     // For all others the lower half of what i64 answers is what i32 answers.
                     return (int) joinLongs(op, a, b);
             }
+        }
+
+        /** The quotient without signs, by a division that knows them. */
+        private static long quotient(long a, long b) {
+            if (b == 0) {
+                return 0;
+            }
+            if (b < 0) {
+                // Twice such a b has more than 64 bits.
+                return isBelow(a, b) ? 0 : 1;
+            }
+            // Half of a has no sign; twice its quotient is the one asked for, or one less.
+            long near = (a >>> 1) / b << 1;
+            return isBelow(a - near * b, b) ? near : near + 1;
         }
 
         static long joinLongs(int op, long a, long b) {
@@ -1676,11 +1706,11 @@ public final class WaferRunner {
                 case Op.DIV_S:
                     return b == 0 ? 0 : a / b;
                 case Op.DIV_U:
-                    return b == 0 ? 0 : Long.divideUnsigned(a, b);
+                    return quotient(a, b);
                 case Op.REM_S:
                     return b == 0 ? 0 : a % b;
                 case Op.REM_U:
-                    return b == 0 ? 0 : Long.remainderUnsigned(a, b);
+                    return a - quotient(a, b) * b;
                 case Op.AND:
                     return a & b;
                 case Op.OR:
@@ -1694,9 +1724,9 @@ public final class WaferRunner {
                 case Op.SHR_U:
                     return a >>> b;
                 case Op.ROTL:
-                    return Long.rotateLeft(a, (int) b);
+                    return a << b | a >>> -b;
                 default:
-                    return Long.rotateRight(a, (int) b);
+                    return a >>> b | a << -b;
             }
         }
     }

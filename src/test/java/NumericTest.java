@@ -30,8 +30,10 @@ public final class NumericTest {
         String in = bits == 32 ? "7F" : "7E";
         String out = compares || bits == 32 ? "7F" : "7E";
         String code = String.format("00 20 00 %s %02X 0B", one ? "" : "20 01", op);
-        WaferRunner x = Use.with(Build.one("60" + (one ? "01" : "02 " + in) + in + "01" + out, code));
+        byte[] module = Build.one("60" + (one ? "01" : "02 " + in) + in + "01" + out, code);
         for (long a : numbers) {
+            // One object for all numbers would be asked more often than the 512 times that are promised.
+            WaferRunner x = Use.with(module);
             for (long b : one ? new long[] {0} : numbers) {
                 int plain = bits == 32 ? op : op - (compares ? 0x0B : 0x12);
                 String what = Integer.toHexString(op) + " of " + a + ", " + b;
