@@ -24,6 +24,7 @@ final class Build {
     private final List<String> globals = new ArrayList<>();
     private final List<String> exports = new ArrayList<>();
     private final List<String> codes = new ArrayList<>();
+    private String tail = "";
 
     /** A module with one function and a page of memory; the code tells its locals and its end, too. */
     static byte[] one(String type, String code) {
@@ -35,7 +36,7 @@ final class Build {
         return this;
     }
 
-    Build function(int type, String code) {
+    Build function(long type, String code) {
         functions.add(number(type));
         codes.add(sized(code));
         return this;
@@ -56,9 +57,21 @@ final class Build {
         return this;
     }
 
+    /** A code without its function. */
+    Build code(String code) {
+        codes.add(sized(code));
+        return this;
+    }
+
+    /** Bytes behind all sections. */
+    Build tail(String hex) {
+        tail += hex;
+        return this;
+    }
+
     byte[] bytes() {
         return hex(HEAD + row(1, types) + row(3, functions) + row(5, memories) + row(6, globals)
-            + row(7, exports) + row(10, codes));
+            + row(7, exports) + row(10, codes) + tail);
     }
 
     private static String row(int id, List<String> parts) {
@@ -92,6 +105,20 @@ final class Build {
             rest >>= 7;
         }
         return s.append(String.format("%02X ", rest & 127)).toString();
+    }
+
+    /** The number in so many bytes, the last with these bits above it. */
+    static String padded(long n, int bytes, int bits) {
+        StringBuilder s = new StringBuilder();
+        for (int k = 0; k < bytes - 1; k++) {
+            s.append(String.format("%02X ", n >> 7 * k & 127 | 128));
+        }
+        int shift = Math.min(63, 7 * (bytes - 1));
+        return s.append(String.format("%02X ", n >> shift & 127 | bits)).toString();
+    }
+
+    static String padded(long n, int bytes) {
+        return padded(n, bytes, 0);
     }
 
     static String times(int n, String part) {

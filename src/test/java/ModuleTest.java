@@ -2,6 +2,7 @@
 public final class ModuleTest {
     public static void main(String[] args) {
         beginsAnew();
+        allOfTheMemoryIsZero();
         staysIfTheNextIsNone();
         argumentsStay();
         theTapeIsEmpty();
@@ -37,12 +38,39 @@ public final class ModuleTest {
         Due.thrown("call(0)", IllegalArgumentException.class, () -> x.call(0));
         Due.thrown("global(0)", IllegalArgumentException.class, () -> x.global(0));
         Due.thrown("memory(0)", IllegalArgumentException.class, () -> x.memory(0));
-        // What the memory had is gone, though a module without one came between.
-        Due.same("reason", Use.load(x, new Build().memory("00 02").bytes()), 0);
-        for (int i = 0; i < 2 * 65536; i += 1) {
-            if (x.memory(i) != 0) {
-                Due.same("memory(" + i + ")", x.memory(i), 0);
-            }
+    }
+
+    /** Function 0 fills the bytes from one address to another, 1 joins them by or, 2 grows the memory. */
+    private static Build filler(String limits) {
+        return new Build().type("60 02 7F 7F 00").type("60 02 7F 7F 01 7E").type(Build.I32_TO_I32)
+            .function(0, "00 03 40 20 00 42 7F 37 03 00 20 00 41 08 6A 22 00 20 01 47 0D 00 0B 0B")
+            .function(1, "01 01 7E 03 40 20 02 20 00 29 03 00 84 21 02 20 00 41 08 6A 22 00 20 01 47 0D 00 0B 20 02 0B")
+            .function(2, "00 20 00 40 00 0B").memory(limits);
+    }
+
+    private static void pagesAre(String what, WaferRunner x, long due) {
+        Due.same(what + ": the first page", Use.call(x, 1, 0, 65536), due);
+        Due.same(what + ": the second page", Use.call(x, 1, 65536, 131072), due);
+    }
+
+    /** Each of its bytes, whatever the modules before have put there. */
+    private static void allOfTheMemoryIsZero() {
+        for (String between : new String[] {"00 02", "00 01", "00 00", ""}) {
+            WaferRunner x = Use.with(filler("00 02"));
+            pagesAre("a new memory", x, 0);
+            Use.call(x, 0, 0, 65536);
+            Use.call(x, 0, 65536, 131072);
+            pagesAre("a full memory", x, -1);
+            Due.same("not a module", Use.load(x, new byte[9]), 1);
+            pagesAre("a memory behind a module that was none", x, -1);
+            Due.same("between", Use.load(x, (between.isEmpty() ? new Build() : filler(between)).bytes()), 0);
+            Due.same("a module", Use.load(x, filler("00 02").bytes()), 0);
+            pagesAre("the memory of the next module", x, 0);
+            Use.call(x, 0, 65536, 131072);
+            Due.same("a module that grows", Use.load(x, filler("00 00").bytes()), 0);
+            Due.same("grow by 1", Use.call(x, 2, 1), 0);
+            Due.same("grow by 1 more", Use.call(x, 2, 1), 1);
+            pagesAre("pages that were grown", x, 0);
         }
     }
 

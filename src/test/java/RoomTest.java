@@ -2,8 +2,10 @@ import java.lang.management.ManagementFactory;
 
 /** LANGUAGE.md, rule 12, and the one room of a run: calls use again what the constructor made. */
 public final class RoomTest {
-    /** Far below what a byte of memory for each of 512 modules would take, but enough for 512 exceptions. */
-    private static final long BYTES_MOST = 4_000_000;
+    /** An object is used for 512 calls, and a round takes eight. */
+    private static final int ROUNDS = 60;
+    /** Far below what a new memory for each module would take, but enough for as many exceptions. */
+    private static final long BYTES_MOST = 1_500_000;
 
     private static long allocated() {
         return ((com.sun.management.ThreadMXBean) ManagementFactory.getThreadMXBean()).getCurrentThreadAllocatedBytes();
@@ -16,9 +18,9 @@ public final class RoomTest {
         run(good, 1);
         run(bad, 1);
         run(endless, 1);
-        within("modules", run(good, 170));
-        within("modules that are none", run(bad, 170));
-        within("runs without end", run(endless, 170));
+        within("modules", run(good, ROUNDS));
+        within("modules that are none", run(bad, ROUNDS));
+        within("runs without end", run(endless, ROUNDS));
         long before = allocated();
         WaferRunner x = new WaferRunner();
         long made = allocated() - before;

@@ -3,17 +3,7 @@ import java.util.Arrays;
 
 /** Ways to use a runner that several tests share. */
 final class Use {
-    /** Has more of everything than most modules. */
-    private static final byte[] FULL = new Build().type(Build.NONE_TO_I32).type(Build.NONE_TO_NONE).type(Build.I64_TO_I64)
-        .function(1, "01 3C 7E 02 40 00 0B 0B").function(0, "01 09 7F 41 00 02 7F 41 01 0B 6A 0B")
-        .function(2, "00 00 0E 02 00 00 00 0B").memory("01 01 02")
-        .global("7F 01 41 05 0B").global("7E 01 42 05 0B").global("7F 01 41 05 0B")
-        .export("f", 0, 0).export("g", 3, 1).export("m", 2, 0).bytes();
-    /** Is not read, and ends within a block. */
-    private static final byte[] OPEN = new Build().type(Build.NONE_TO_NONE).function(0, "00 02 40 41 00 04 40").bytes();
-    /** Is not valid, and is given up within a block that can't be reached, with values on the stack. */
-    private static final byte[] WRONG = new Build().type(Build.I64_TO_I64).function(0, "00 41 01 02 40 00 42 01 45 0B 0B")
-        .bytes();
+    private static final byte[] HEAD = Build.hex(Build.HEAD);
 
     private Use() {
     }
@@ -34,21 +24,29 @@ final class Use {
             | bytes[at + 3] & 255;
     }
 
-    /** Answers the reason, 0 if the bytes are a module; looks at what module does on the way. */
+    /** Answers the reason, 0 if the bytes are a module; looks on the way at what must stay and what must go. */
     static int load(WaferRunner x, byte[] bytes) {
         tape(x, bytes);
-        int functions = x.count(2);
+        State before = new State(x);
+        Due.same("count(0) before module", x.count(0), bytes.length);
+        int functions = -1;
         boolean threw = false;
         try {
-            int answer = x.module();
-            Due.same("count(2) behind module", x.count(2), answer);
+            functions = x.module();
         } catch (UnsupportedOperationException e) {
             threw = true;
-            Due.same("count(2) behind a module that threw", x.count(2), functions);
         }
+        int reason = x.count(1);
+        Due.isTrue("a reason just if it threw", threw == (reason != 0));
         Due.same("count(0) behind module", x.count(0), 0);
-        Due.isTrue("a reason just if it threw", threw == (x.count(1) != 0));
-        return x.count(1);
+        if (threw) {
+            before.stays("a module that is none", x, 0, 1);
+        } else {
+            Due.same("count(2) behind module", x.count(2), functions);
+            before.countStays("a module", x, 5, 6);
+            State.beginsWithZeros("a module", x);
+        }
+        return reason;
     }
 
     static WaferRunner with(byte[] module) {
@@ -90,14 +88,24 @@ final class Use {
         answers(what, with(Build.one(type, code)), want, arguments);
     }
 
-    /** A new object and one that has had other modules, good and bad, must say the same. */
+    /** A new object and one that has had other modules, good and bad, must say the same, and say it again. */
     static void read(String what, byte[] module, int reason) {
-        Due.same("module: " + what, load(new WaferRunner(), module), reason);
-        WaferRunner used = new WaferRunner();
-        Due.same("the full module", load(used, FULL), 0);
-        Due.same("the open module", load(used, OPEN), 1);
-        Due.same("the full module again", load(used, FULL), 0);
-        Due.same("the wrong module", load(used, WRONG), 2);
+        WaferRunner fresh = new WaferRunner();
+        Due.same("module: " + what, load(fresh, module), reason);
+        readAgain("behind a head: " + what, fresh, module, reason);
+        WaferRunner used = Past.used();
         Due.same("module behind others: " + what, load(used, module), reason);
+        if (reason != 0) {
+            Past.goesOn("behind " + what, used);
+        }
+        readAgain("behind others and a head: " + what, used, module, reason);
+    }
+
+    private static void readAgain(String what, WaferRunner x, byte[] module, int reason) {
+        Due.same("a head before " + what, load(x, HEAD), 0);
+        Due.same("functions of a head", x.count(2), 0);
+        Due.same("globals of a head", x.count(3), 0);
+        Due.same("pages of a head", x.count(4), 0);
+        Due.same("module " + what, load(x, module), reason);
     }
 }
