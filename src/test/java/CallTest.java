@@ -99,8 +99,33 @@ public final class CallTest {
             .function(0, "00 41 64 02 7F 41 01 41 02 0C 00 0B 6A 0B"));
         Due.same("the second function", Use.call(second, 1), -28 + 2);
 
+        branchesBehindCalls();
         WaferRunner locals = Use.with(new Build().type(Build.I32_TO_I32)
             .function(0, "01 01 7F 20 01 20 00 45 0D 00 1A 41 09 21 01 20 00 41 01 6B 10 00 20 01 6A 0B"));
         Use.answers("locals are 0 in each call", locals, 27, 3);
+    }
+
+    /** What a branch leaves is the caller's own, however much the function that was called had. */
+    private static void branchesBehindCalls() {
+        String[] callees = {"00 20 00 0B", "01 09 7F 20 00 0B", "01 3C 7E 42 01 42 02 20 00 0F 0B",
+            "01 01 7F 02 7F 41 01 20 00 0C 01 0B 0B"};
+        String[] callers = {
+            // 100 + n by a branch out of a block, a branch that may be passed, a table, and a loop's next round
+            "41 E4 00 02 7F 41 01 41 02 20 00 10 01 0C 00 0B 6A",
+            "41 E4 00 02 7F 41 01 41 02 20 00 10 01 41 01 0D 00 6A 6A 0B 6A",
+            "41 E4 00 02 7F 41 01 41 02 20 00 10 01 41 05 0E 01 00 00 0B 6A",
+            "41 E4 00 20 00 10 01 03 7F 41 07 41 08 20 00 10 01 1A 20 01 45 04 40 41 01 21 01 0C 01 0B 1A 0B 1A 6A"
+        };
+        for (String callee : callees) {
+            for (String caller : callers) {
+                for (String locals : new String[] {"01 01 7F", "02 02 7F 14 7E"}) {
+                    Build build = new Build().type(Build.I32_TO_I32).function(0, locals + caller + "0B")
+                        .function(0, callee);
+                    for (WaferRunner x : Past.allWith(build.bytes())) {
+                        Use.answers("100 and", x, 123, 23);
+                    }
+                }
+            }
+        }
     }
 }

@@ -37,7 +37,27 @@ public final class CountTest {
         are(x, "a module that was none", 0, 1, 3, 1, 2, 2, 0);
         Due.same("a head", Use.load(x, Build.hex(Build.HEAD)), 0);
         are(x, "a head", 0, 0, 0, 0, 0, 2, 0);
+        withAPast();
         Due.finish();
+    }
+
+    private static void withAPast() {
+        WaferRunner x = Past.used();
+        are(x, "a past", 7, 3, 8, 3, 2, 6, 3);
+        Due.same("a call", x.call(1), 567);
+        are(x, "a call", 7, 0, 8, 3, 2, 10, 0);
+        Due.thrown("not read", UnsupportedOperationException.class, () -> x.module());
+        are(x, "not read", 0, 1, 8, 3, 2, 10, 0);
+        Due.thrown("calls without end", ArithmeticException.class, () -> x.call(6));
+        are(x, "calls without end", 0, 7, 8, 3, 2, 100, 0);
+        Due.thrown("a loop without end", ArithmeticException.class, () -> x.call(3));
+        are(x, "a loop without end", 0, 8, 8, 3, 2, 100001, 0);
+        Due.thrown("one argument too few", IllegalArgumentException.class, () -> x.call(4));
+        are(x, "a call that did not begin", 0, 8, 8, 3, 2, 100001, 0);
+        Due.same("not valid", Use.load(x, new Build().memory("00 03").bytes()), 2);
+        are(x, "not valid", 0, 2, 8, 3, 2, 100001, 0);
+        Due.same("a module", Use.load(x, new Build().memory("00 01").bytes()), 0);
+        are(x, "a module", 0, 0, 0, 0, 1, 100001, 0);
     }
 
     private static void are(WaferRunner x, String when, int... due) {

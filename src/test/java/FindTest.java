@@ -1,3 +1,5 @@
+import java.nio.charset.StandardCharsets;
+
 /** Promise 5: find. */
 public final class FindTest {
     public static void main(String[] args) {
@@ -34,6 +36,44 @@ public final class FindTest {
         Due.same("the empty name without exports", bare.find(), -1);
         WaferRunner named = Use.with(new Build().memory("00 01").export("", 2, 0));
         Due.same("the empty name of a memory", named.find(), -1);
+        lengths();
+        findLeavesAllButTheTape();
         Due.finish();
+    }
+
+    /** A name of each length from the shortest to the longest, and tapes that have a byte more or less. */
+    private static void lengths() {
+        for (int length = 0; length <= 30; length++) {
+            String name = "z".repeat(length);
+            byte[] module = new Build().type(Build.NONE_TO_NONE).function(0, "00 0B").function(0, "00 0B")
+                .export(name, 0, 1).bytes();
+            for (WaferRunner x : Past.allWith(module)) {
+                Due.same("a name of " + length, Use.find(x, name), 1);
+                Due.same("a byte more than " + length, Use.find(x, name + "z"), -1);
+                Due.same("no bytes", Use.find(x, ""), length == 0 ? 1 : -1);
+                if (length > 0) {
+                    Due.same("a byte less than " + length, Use.find(x, name.substring(1)), -1);
+                    Due.same("another first byte", Use.find(x, "y" + name.substring(1)), -1);
+                    Due.same("another last byte", Use.find(x, name.substring(1) + "y"), -1);
+                }
+            }
+        }
+    }
+
+    private static void findLeavesAllButTheTape() {
+        for (WaferRunner x : Past.all()) {
+            boolean isNew = x.count(2) < 0;
+            for (String name : new String[] {"next", "three", "g", "", "nex", "nextt", "z".repeat(200)}) {
+                Use.tape(x, name.getBytes(StandardCharsets.ISO_8859_1));
+                State before = new State(x);
+                int due = isNew ? -1 : name.equals("next") ? 0 : name.equals("three") ? 1 : -1;
+                Due.same("find " + name, x.find(), due);
+                Due.same("the tape behind find", x.count(0), 0);
+                before.stays("find", x, 0);
+            }
+            if (!isNew) {
+                Past.goesOn("behind find", x);
+            }
+        }
     }
 }
