@@ -65,7 +65,7 @@ public final class ReasonTest {
         Due.same(what + ": byte 0", x.memory(0), begun);
         Due.same(what + ": byte 8", x.memory(8), done > 0 ? 7 : 0);
         Due.same(what + ": pages", x.count(4), PAGES);
-        Due.same(what + ": functions", x.count(2) > 0 ? 1 : 0, 1);
+        Due.same(what + ": globals", x.count(3), 2);
         Due.same(what + ": the tape", x.count(0), 7);
         Due.same(what + ": arguments", x.count(6), 0);
     }

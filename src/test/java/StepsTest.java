@@ -103,7 +103,8 @@ public final class StepsTest {
         for (int n = 1; n <= 4; n++) {
             takes(1 + 5 * n, "03 40 20 00 41 01 6B 22 00 0D 00 0B", n);
             takes(2 + 5 * n, "02 40 03 40 20 00 41 01 6B 22 00 0E 01 01 00 0B 0B", n);
-            takes(1 + 6 * n - 1, "03 40 20 00 41 01 6B 22 00 04 40 0C 01 0B 0B", n);
+            // With an if for what goes on, whose branch the last time round does not come to.
+            takes(1 + 5 * n + (n - 1), "03 40 20 00 41 01 6B 22 00 04 40 0C 01 0B 0B", n);
             // A loop in a loop is begun once for each time round of the outer one.
             takes(1 + 6 * n, "03 40 03 40 0B 20 00 41 01 6B 22 00 0D 00 0B", n);
             // A branch to the outer loop leaves the inner one, which is begun again.
