@@ -16,9 +16,12 @@ public final class ControlTest {
     }
 
     private static void takes(String what, String type, String code, long want, int steps, long... arguments) {
-        WaferRunner x = Use.with(Build.one(type, code));
-        Use.answers(what, x, want, arguments);
-        Due.same(what + ": steps", x.count(5), steps);
+        for (WaferRunner x : Past.allWith(Build.one(type, code))) {
+            State before = new State(x);
+            Use.answers(what, x, want, arguments);
+            Due.same(what + ": steps", x.count(5), steps);
+            before.stays(what, x, 1, 5);
+        }
     }
 
     private static void steps() {

@@ -78,6 +78,22 @@ final class Past {
         return x;
     }
 
+    private static int turn = 0;
+
+    /** A new object, one that was used and one that was tired take turns; it has no arguments. */
+    static WaferRunner next() {
+        turn++;
+        WaferRunner x = turn % 3 == 1 ? new WaferRunner() : turn % 3 == 2 ? used() : tired();
+        dropArguments(x);
+        return x;
+    }
+
+    private static void dropArguments(WaferRunner x) {
+        if (x.count(6) > 0) {
+            Due.same("the arguments of the past", x.call(THREE), 567);
+        }
+    }
+
     /** A new object and two with a past. */
     static WaferRunner[] all() {
         return new WaferRunner[] {new WaferRunner(), used(), tired()};
@@ -87,13 +103,22 @@ final class Past {
     static WaferRunner[] allWith(byte[] module) {
         WaferRunner[] all = all();
         for (WaferRunner x : all) {
-            if (x.count(6) > 0) {
-                Due.same("the arguments of the past", x.call(THREE), 567);
-            }
-            Due.same("the reason of " + Build.text(module), Use.load(x, module), 0);
-            Use.tape(x, new byte[] {1, 2, 3, 4, 5, 6, 7});
+            turnTo(x, module);
         }
         return all;
+    }
+
+    /** One of them. */
+    static WaferRunner usedWith(byte[] module) {
+        WaferRunner x = used();
+        turnTo(x, module);
+        return x;
+    }
+
+    private static void turnTo(WaferRunner x, byte[] module) {
+        dropArguments(x);
+        Due.same("the reason of " + Build.text(module), Use.load(x, module), 0);
+        Use.tape(x, new byte[] {1, 2, 3, 4, 5, 6, 7});
     }
 
     /** The MODULE of such an object answers as if nothing had been asked since; its arguments go. */

@@ -49,8 +49,9 @@ final class Use {
         return reason;
     }
 
+    /** Now a new object, now one with a past: all that a test asks for must hold for each of them. */
     static WaferRunner with(byte[] module) {
-        WaferRunner x = new WaferRunner();
+        WaferRunner x = Past.next();
         Due.same("reason of " + Build.text(module), load(x, module), 0);
         return x;
     }
@@ -85,7 +86,9 @@ final class Use {
 
     /** Runs function 0 of a module that has just it. */
     static void runs(String what, String type, String code, long want, long... arguments) {
-        answers(what, with(Build.one(type, code)), want, arguments);
+        for (WaferRunner x : Past.allWith(Build.one(type, code))) {
+            answers(what, x, want, arguments);
+        }
     }
 
     /** A new object and one that has had other modules, good and bad, must say the same, and say it again. */
