@@ -3,11 +3,14 @@ import java.util.function.LongSupplier;
 
 /**
  * Promises 1 to 10: objects that have one module after the other, up to their 512th call, each answer against that of
- * the twin, which tells the document a second time. With a number, so many objects are made instead.
+ * the twin, which tells the document a second time. It can be given how many objects to make, and from which seed on.
  */
 public final class TwinTest {
     private static final int OBJECTS = 300;
     private static final int CALLS = 512;
+
+    /** How often each reason was told; none may be missing. */
+    private static final int[] REASONS = new int[9];
 
     private final WaferRunner x = new WaferRunner();
     private final Twin twin = new Twin();
@@ -31,6 +34,9 @@ public final class TwinTest {
                 one.goOn();
                 other.goOn();
             }
+        }
+        for (int reason = 0; reason < REASONS.length; reason++) {
+            Due.isTrue("reason " + reason + " was told " + REASONS[reason] + " times", REASONS[reason] > objects / 10);
         }
         Due.finish();
     }
@@ -67,6 +73,7 @@ public final class TwinTest {
         bring(bytes);
         same("module() of " + Build.text(bytes), () -> x.module(), () -> twin.module());
         same("count(1)", () -> x.count(1), () -> twin.count(1));
+        REASONS[twin.count(1)]++;
         for (int left = maker.below(12); left > 0 && calls < CALLS; left--) {
             use();
         }
@@ -100,6 +107,7 @@ public final class TwinTest {
                 same("argument", () -> x.argument(v), () -> twin.argument(v));
             }
             same("call(" + f + ")", () -> x.call(f), () -> twin.call(f));
+            REASONS[twin.count(1)]++;
             look();
         }
     }

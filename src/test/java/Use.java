@@ -11,6 +11,11 @@ final class Use {
     /** Leaves just these bytes on the tape. */
     static void tape(WaferRunner x, byte[] bytes) {
         x.end(0);
+        feed(x, bytes);
+    }
+
+    /** Puts them on a tape that is empty. */
+    static void feed(WaferRunner x, byte[] bytes) {
         byte[] padded = Arrays.copyOf(bytes, (bytes.length + 19) / 20 * 20);
         for (int at = 0; at < padded.length; at += 20) {
             x.feed(four(padded, at), four(padded, at + 4), four(padded, at + 8), four(padded, at + 12),
