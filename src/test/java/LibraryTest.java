@@ -1,10 +1,7 @@
-import java.io.DataInputStream;
 import java.io.IOException;
-import java.io.InputStream;
 import java.nio.file.Files;
 import java.nio.file.Path;
 import java.util.Set;
-import java.util.TreeSet;
 import java.util.regex.Matcher;
 import java.util.regex.Pattern;
 
@@ -42,7 +39,7 @@ public final class LibraryTest {
 
     private static void lookAtClass(Class<?> type) throws IOException {
         int seen = 0;
-        for (String member : membersUsedBy(type)) {
+        for (String member : new ClassFile(type).used) {
             if (!member.startsWith("WaferRunner")) {
                 Due.isTrue(type.getName() + " calls for " + member, isListed(member));
                 seen++;
@@ -50,57 +47,6 @@ public final class LibraryTest {
         }
         // Each class makes its objects, if by nothing else then by the constructor that it is given.
         Due.isTrue("something is seen in " + type.getName(), seen > 0);
-    }
-
-    /** From the class file's row of constants. */
-    private static Set<String> membersUsedBy(Class<?> type) throws IOException {
-        try (InputStream file = type.getResourceAsStream(type.getName() + ".class");
-            DataInputStream in = new DataInputStream(file)) {
-            in.skipBytes(8);
-            int size = in.readUnsignedShort();
-            int[] tags = new int[size];
-            int[] firsts = new int[size];
-            int[] seconds = new int[size];
-            String[] texts = new String[size];
-            for (int k = 1; k < size; k++) {
-                tags[k] = in.readUnsignedByte();
-                switch (tags[k]) {
-                    case 1:
-                        texts[k] = in.readUTF();
-                        break;
-                    case 3:
-                    case 4:
-                        in.readInt();
-                        break;
-                    case 5:
-                    case 6:
-                        in.readLong();
-                        k++;
-                        break;
-                    case 7:
-                    case 8:
-                        firsts[k] = in.readUnsignedShort();
-                        break;
-                    case 9:
-                    case 10:
-                    case 11:
-                    case 12:
-                        firsts[k] = in.readUnsignedShort();
-                        seconds[k] = in.readUnsignedShort();
-                        break;
-                    default:
-                        throw new IOException("a lambda, a reference to a method or a joined text in " + type.getName());
-                }
-            }
-            Set<String> members = new TreeSet<>();
-            for (int k = 1; k < size; k++) {
-                if (tags[k] >= 9 && tags[k] <= 11) {
-                    int named = seconds[k];
-                    members.add(texts[firsts[firsts[k]]] + "." + texts[firsts[named]] + texts[seconds[named]]);
-                }
-            }
-            return members;
-        }
     }
 
     /** The compiler writes a constant's number in its place, so a constant of the library shows just here. */
